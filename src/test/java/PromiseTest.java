@@ -179,6 +179,7 @@ public final class PromiseTest {
         due("the tape is empty", x.count(1), 0);
         cityDefaults();
         cityStartsAnew();
+        cityForgets();
         cityWriting();
         cityFaults();
         cityTooMany();
@@ -193,6 +194,8 @@ public final class PromiseTest {
         due("river without", y.lane(), 4);
         city(y, "river 10;");
         due("lane without", y.lane(), 20);
+        due("its way without", told("corner 30 0;corner 29 0;corner 0 0;corner 5 1;corner 30 1;").stop(), 7);
+        due("a river of 0", told("river 9;river 0;").lane(), 30);
         due("streets side by side at one place", city(y, "corner 1 1;corner 1 1;street 0 1 1 0;street 1 0 20 20;"), 2);
         due("length 0", y.street(0, 4), 0);
         due("start", y.street(1, 0), 1);
@@ -229,7 +232,59 @@ public final class PromiseTest {
         due("mate", x.street(0, 5), NONE);
     }
 
+    /** Nothing of a larger city stays in a smaller one, told twice, for there may be two places to keep it. */
+    private static void cityForgets() {
+        MarriedStreets x = new MarriedStreets();
+        for (int i = 0; i < 2; i++) {
+            city(x, sideBySide(8, 20, 20) + "never 0 1;likes 0 1 0;good 9 9;good 9 9;corner 5 5;lane 60 5 1 0;river 7;");
+            due("the first", x.told(5), 160);
+        }
+        for (int i = 0; i < 2; i++) {
+            due("the second", city(x, "corner 1 1;corner 2 2;street 0 1 1 3;"), 1);
+            due("trees", x.told(5), 3);
+            due("corners", x.told(0), 2);
+            due("goods", x.told(2), 0);
+            due("bridges", x.bridges(0), 1);
+            due("reach", x.reach(0), 3);
+            due("fair", x.fair(0), 1);
+            due("even", x.even(), 0);
+            due("river and lane without", x.lane(), 30);
+            refused("street(1, 0)", NSEE, () -> x.street(1, 0));
+            refused("round(2)", IAE, () -> x.round(2));
+        }
+        for (int i = 0; i < 2; i++) {
+            city(x, sideBySide(2, 1, 1));
+            due("never", x.banns(0, 1), 0);
+            due("likes", x.likes(0, 1), 5);
+            due("best", x.best(), 10);
+        }
+    }
+
+    /** What stands on the tape behind the text does not count. */
+    private static void tapeBehind() {
+        MarriedStreets x = new MarriedStreets();
+        feed(x, "river 55;   river 9;");
+        due("city(7)", x.city(7), -9);
+        due("fault()", x.fault(), 7);
+        feed(x, "river 5;    river 9;");
+        due("city(5)", x.city(5), -9);
+        due("fault()", x.fault(), 5);
+        feed(x, "river 5;    ;       ");
+        due("city(12)", x.city(12), 0);
+        due("lane()", x.lane(), 25);
+        feed(x, "river 5;    ;       ");
+        due("city(7)", x.city(7), -9);
+        due("fault()", x.fault(), 7);
+        feed(x, "r  river 5;");
+        due("city(1)", x.city(1), -9);
+        due("fault()", x.fault(), 0);
+        feed(x, "river 5  ;");
+        due("city(8)", x.city(8), -9);
+        due("fault()", x.fault(), 8);
+    }
+
     private static void cityWriting() {
+        tapeBehind();
         MarriedStreets x = told("  corner007 0 ; corner 60  0000000000000000000060;street0 1 20 20;river5;  ");
         due("no fault", x.fault(), NONE);
         due("length", x.street(0, 4), 113);
@@ -248,6 +303,13 @@ public final class PromiseTest {
         cityFault("corner 1 x;", 1, 9);
         cityFault("Corner 1 1;", 1, 0);
         cityFault("cornera 1 1;", 1, 0);
+        cityFault("xorner 1 1;", 1, 0);
+        cityFault("cornez 1 1;", 1, 0);
+        cityFault("corner 1 {;", 1, 9);
+        cityFault("`orner 1 1;", 1, 0);
+        cityFault("corner{1 1;", 1, 6);
+        cityFault("corner 1/ 1;", 1, 8);
+        cityFault("corner 1: 1;", 1, 8);
         cityFault(" corne 1 1;", 1, 1);
         cityFault("1", 1, 0);
         cityFault("corner 1\t1;", 1, 8);
@@ -380,8 +442,9 @@ public final class PromiseTest {
         lawValue(x, "(0-512*512*512*16) / (0-1) / 512 / 512 / 512", -16);
         lawValue(x, "512*512*512*32 + 8", 8);
         law(x, "0");
-        work(x, "year;marry 0 1;quarrel 0;plant 0 6;year;");
-        lawValue(x, "year", 2);
+        work(x, "year;marry 0 1;quarrel 0;plant 0 6;year;year;");
+        lawValue(x, "0", 0);
+        lawValue(x, "year", 3);
         lawValue(x, "holes", 2);
         lawValue(x, "trees", 13);
         MarriedStreets y = told(sideBySide(2, 1, 1));
@@ -486,6 +549,16 @@ public final class PromiseTest {
         due("but the third", x.told(6), 4);
         due("repaved alone", work(x, "repave 0;repave 0;"), 1);
         due("no holes", x.told(6), 0);
+        MarriedStreets y = told(sideBySide(8, 3, 5));
+        work(y, "marry 0 1;quarrel 0;part 0;marry 1 2;");
+        due("for the mate's holes", work(y, "repave 2;"), 1);
+        due("no holes of the mate", y.street(1, 8), 0);
+        due("but of the one that was", y.street(0, 8), 1);
+        work(y, "marry 7 6;year;quarrel 6;");
+        due("holes of the last", y.street(7, 8), 1);
+        due("years of the last", y.street(7, 7), 1);
+        due("the last is she", y.street(7, 6), 1);
+        due("mate of the last", y.street(7, 5), 6);
     }
 
     private static void workYears() {
@@ -679,6 +752,8 @@ public final class PromiseTest {
         refused("likes(5, 5)", NSEE, () -> x.likes(5, 5));
         refused("likes(0, 5)", NSEE, () -> x.likes(0, 5));
         refused("likes(0, -1)", NSEE, () -> x.likes(0, -1));
+        refused("likes(5, 0)", NSEE, () -> x.likes(5, 0));
+        refused("likes(-1, 0)", NSEE, () -> x.likes(-1, 0));
     }
 
     private static void bannsPromise() {
@@ -698,6 +773,8 @@ public final class PromiseTest {
         due("married or not", x.banns(1, 2), 0);
         refused("banns(5, 0)", NSEE, () -> x.banns(5, 0));
         refused("banns(0, 5)", NSEE, () -> x.banns(0, 5));
+        refused("banns(-1, 5)", NSEE, () -> x.banns(-1, 5));
+        refused("banns(5, 5)", NSEE, () -> x.banns(5, 5));
     }
 
     private static void numberPromise() {
@@ -720,6 +797,8 @@ public final class PromiseTest {
     private static void letterPromise() {
         MarriedStreets x = told(SQUARE);
         due("alone", x.letter(4, 6), 406);
+        due("the first house", x.letter(4, 1), 401);
+        due("the first street", x.letter(0, 1), 1);
         due("alone, nowhere", x.letter(4, 7), NONE);
         work(x, "marry 2 4;");
         due("hers", x.letter(4, 1), 201);
@@ -893,6 +972,14 @@ public final class PromiseTest {
                 + "street 0 1 1 1;street 1 2 1 1;street 2 3 1 1;street 0 1 1 1;street 2 3 1 1;");
         due("two rings and a way between", z.round(1 | 4 | 8 | 16), 6);
         due("by one that is not told", z.round(1 | 4), 6);
+        MarriedStreets u = told("corner 0 0;corner 1 0;corner 2 0;corner 3 0;corner 4 0;"
+                + "street 3 4 1 1;street 2 3 1 1;street 1 2 1 1;street 0 1 1 1;");
+        due("a line from its end", u.round(15), 8);
+        due("its ends", u.round(9), 8);
+        due("its middle", u.round(4), 2);
+        MarriedStreets v = told("corner 0 0;corner 1 0;corner 2 0;corner 3 0;street 2 3 1 1;street 0 1 1 1;street 1 2 1 1;");
+        due("in another order", v.round(7), 6);
+        due("in another order", v.round(3), 6);
     }
 
     private static void reachPromise() {
@@ -943,6 +1030,8 @@ public final class PromiseTest {
         due("each what it likes", told("good 9 0;good 0 8;").even(), 8);
         due("eight", told(times(8, "good 9 9;")).even(), 36);
         due("none", new MarriedStreets().even(), 0);
+        due("the first is the other one's", told("good 0 8;good 9 0;").even(), 8);
+        due("three", told("good 5 1;good 1 5;good 3 3;").even(), 5);
     }
 
     private static void matesPromise() {
@@ -1056,6 +1145,10 @@ public final class PromiseTest {
         due("alike and small", x.suitors(3, 2, 2, 0), 8);
         due("the first", x.suitors(3, 2, 2, 1), 0);
         due("worth nothing", x.suitors(1, 0, 0, 0), 2);
+        due("to 20", x.suitors(20, 40, 40, 0), 1);
+        due("to 20", x.suitors(20, 40, 40, 1), 2020);
+        due("to 20", x.suitors(20, 40, 40, 2), 20);
+        due("none has more by another", x.suitors(1, 2, 1, 0), 4);
         refused("suitors(21, 0, 0, 0)", IAE, () -> x.suitors(21, 0, 0, 0));
         refused("suitors(-1, 0, 0, 0)", IAE, () -> x.suitors(-1, 0, 0, 0));
         refused("suitors(0, 41, 0, 0)", IAE, () -> x.suitors(0, 41, 0, 0));
@@ -1173,6 +1266,10 @@ public final class PromiseTest {
         due("one seed", x.span(5, 1, 0, 1, 2, 3), 1);
         due("seeds wrap", x.span(2147483647, 2, 16, 20, 1, 3),
                 Math.max(x.centuries(2147483647, 16, 20, 0), x.centuries(-2147483648, 16, 20, 0)));
+        for (int seed = 0; seed < 40; seed++) {
+            due("the seed and the next", x.span(seed, 2, 5, 20, 1, 3), spanModel(x, seed, 2, 5, 20, 1));
+            due("the seed and the next", x.span(seed, 2, 5, 20, 0, 3), spanModel(x, seed, 2, 5, 20, 0));
+        }
         due("nothing stays changed", x.told(4), 2);
         int[][] wrong = {{0, 0, 1, 0, 0}, {21, 0, 1, 0, 0}, {1, -1, 1, 0, 0}, {1, 17, 1, 0, 0}, {1, 0, 0, 0, 0},
             {1, 0, 101, 0, 0}, {1, 0, 1, -1, 0}, {1, 0, 1, 3, 0}, {1, 0, 1, 0, 4}, {1, 0, 1, 1, -1}, {1, 0, 1, 2, 4}};
@@ -1240,6 +1337,52 @@ public final class PromiseTest {
         due("a work of the image is undone", x.undo(), 0);
         due("year", x.told(3), 0);
         due("none", x.restore(), -1);
+        restoreWorks();
+        restoreMany();
+    }
+
+    /** The WORKS of the IMAGE come back, though others were done in their stead. */
+    private static void restoreWorks() {
+        MarriedStreets x = told(sideBySide(4, 3, 5));
+        work(x, "marry 0 1;");
+        work(x, "marry 2 3;");
+        x.image();
+        x.undo();
+        x.undo();
+        work(x, "plant 0 9;");
+        work(x, "plant 0 9;");
+        work(x, "plant 0 9;");
+        due("restore", x.restore(), 0);
+        due("works", x.count(2), 2);
+        due("couples", x.told(4), 2);
+        due("undo", x.undo(), 1);
+        due("trees", x.told(5), 20);
+        due("couples", x.told(4), 1);
+        due("undo", x.undo(), 0);
+        due("trees", x.told(5), 20);
+        due("couples", x.told(4), 0);
+    }
+
+    /** Three IMAGES with 16 WORKS each. */
+    private static void restoreMany() {
+        MarriedStreets x = told(sideBySide(2, 3, 5));
+        for (int image = 1; image <= 3; image++) {
+            for (int i = 0; i < 16; i++) {
+                x.undo();
+            }
+            for (int i = 0; i < 16; i++) {
+                work(x, "plant 0 " + image + ";");
+            }
+            due("image", x.image(), image);
+        }
+        for (int image = 3; image >= 1; image--) {
+            due("restore", x.restore(), image - 1);
+            for (int i = 16; i >= 1; i--) {
+                due("trees", x.street(0, 3), 5 + image * i);
+                due("undo", x.undo(), i - 1);
+            }
+            due("trees", x.street(0, 3), 5);
+        }
     }
 
     private static void statusPromise() {
