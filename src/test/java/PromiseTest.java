@@ -180,6 +180,7 @@ public final class PromiseTest {
         cityDefaults();
         cityStartsAnew();
         cityForgets();
+        cityForgetsRoads();
         cityWriting();
         cityFaults();
         cityTooMany();
@@ -260,6 +261,28 @@ public final class PromiseTest {
         }
     }
 
+    private static void cityForgetsRoads() {
+        MarriedStreets x = new MarriedStreets();
+        String corners = "corner 0 0;corner 9 0;corner 0 9;corner 9 9;";
+        for (int i = 0; i < 2; i++) {
+            city(x, corners + "street 0 1 1 1;street 2 3 1 1;street 0 2 1 1;street 1 3 1 1;street 0 3 1 1;corner 0 0;");
+            due("one piece", x.round(3), 36);
+            due("no bridge", x.bridges(0), 0);
+        }
+        for (int i = 0; i < 2; i++) {
+            city(x, corners + "street 0 1 1 1;street 2 3 1 1;");
+            due("two pieces", x.round(3), NONE);
+            due("two pieces", x.way(0, 2), NONE);
+            due("two pieces", x.reach(0), 3);
+            due("two bridges", x.bridges(0), 2);
+            due("there and back", x.round(1), 18);
+        }
+        city(x, "corner 0 0;corner 5 0;street 0 1 1 1;");
+        due("a single street", x.round(1), 10);
+        city(x, times(10, "corner 3 3;"));
+        due("ten corners", x.reach(9), 512);
+    }
+
     /** What stands on the tape behind the text does not count. */
     private static void tapeBehind() {
         MarriedStreets x = new MarriedStreets();
@@ -305,6 +328,7 @@ public final class PromiseTest {
         cityFault("cornera 1 1;", 1, 0);
         cityFault("xorner 1 1;", 1, 0);
         cityFault("cornez 1 1;", 1, 0);
+        cityFault("cornerz 1 1;", 1, 0);
         cityFault("corner 1 {;", 1, 9);
         cityFault("`orner 1 1;", 1, 0);
         cityFault("corner{1 1;", 1, 6);
@@ -443,7 +467,7 @@ public final class PromiseTest {
         lawValue(x, "512*512*512*32 + 8", 8);
         law(x, "0");
         work(x, "year;marry 0 1;quarrel 0;plant 0 6;year;year;");
-        lawValue(x, "0", 0);
+        lawValue(x, "0 + 0 + 4", 4);
         lawValue(x, "year", 3);
         lawValue(x, "holes", 2);
         lawValue(x, "trees", 13);
@@ -559,6 +583,10 @@ public final class PromiseTest {
         due("years of the last", y.street(7, 7), 1);
         due("the last is she", y.street(7, 6), 1);
         due("mate of the last", y.street(7, 5), 6);
+        due("years of the first", y.street(0, 7), 0);
+        MarriedStreets z = told(sideBySide(2, 3, 5));
+        work(z, "marry 0 1;year;");
+        due("one couple", z.told(4), 1);
     }
 
     private static void workYears() {
@@ -1145,6 +1173,8 @@ public final class PromiseTest {
         due("alike and small", x.suitors(3, 2, 2, 0), 8);
         due("the first", x.suitors(3, 2, 2, 1), 0);
         due("worth nothing", x.suitors(1, 0, 0, 0), 2);
+        due("to 1", x.suitors(1, 9, 9, 0), 1);
+        due("to 1", x.suitors(1, 9, 9, 1), 101);
         due("to 20", x.suitors(20, 40, 40, 0), 1);
         due("to 20", x.suitors(20, 40, 40, 1), 2020);
         due("to 20", x.suitors(20, 40, 40, 2), 20);
