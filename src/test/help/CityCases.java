@@ -293,6 +293,20 @@ final class CityCases extends Trial {
             due("goods", x.told(2), 0);
             due("lane and river without", x.lane(), 30);
         });
+        test("are the CITY", "nothing is left of eight STREETS, told twice ahead", () -> {
+            MarriedStreets x = new MarriedStreets();
+            city(x, sideBySide(8, 20, 20) + "never 0 1;likes 1 0 9;");
+            city(x, sideBySide(8, 20, 20) + "never 0 1;likes 1 0 9;");
+            for (int i = 0; i < 2; i++) {
+                due("city", city(x, sideBySide(2, 1, 3)), 2);
+                due("trees", x.told(5), 6);
+                due("holes", x.told(6), 0);
+                due("banns", x.banns(0, 1), 0);
+                due("best()", x.best(), 10);
+                due("street(2, 3)", outcome(() -> x.street(2, 3)), NSEE);
+                due("round(4)", outcome(() -> x.round(4)), IAE);
+            }
+        });
         test("how many STREETS; or the FAULT less 10 (all but the TAPE stays)", "of a CITY read half", () -> {
             MarriedStreets x = fullLife();
             due("city", city(x, "corner 1 1;corner 5 5;street 0 1 20 20;likes 0 1 1;"), -8);
@@ -508,6 +522,10 @@ final class CityCases extends Trial {
             cityIs("corner1 1;corner2 2;street0 1 1 1;", 1);
             cityFault("cornerriver 1;", 1, 0);
             cityFault("riverx1;", 1, 0);
+            cityFault("rivera 1;", 1, 0);
+            cityFault("riverz 1;", 1, 0);
+            cityFault("aiver 1;", 1, 0);
+            cityFault("zever 0 1;", 1, 0);
             cityFault("rive 1;", 1, 0);
             cityFault("rive", 1, 0);
             cityFault("River 1;", 1, 0);

@@ -394,6 +394,49 @@ final class KeepCases extends Trial {
             due("undo()", x.undo(), -1);
             due("trees", x.told(5), 1);
         });
+        test("WORKS that can be undone, too", "others were done in their stead", () -> {
+            MarriedStreets x = told(sideBySide(4, 1, 1));
+            work(x, "marry 0 1;");
+            work(x, "marry 2 3;");
+            x.image();
+            x.undo();
+            x.undo();
+            work(x, "plant 0 9;");
+            work(x, "plant 0 9;");
+            work(x, "plant 0 9;");
+            due("restore()", x.restore(), 0);
+            due("couples", x.told(4), 2);
+            due("undo()", x.undo(), 1);
+            due("couples", x.told(4), 1);
+            due("trees", x.told(5), 4);
+            due("undo()", x.undo(), 0);
+            due("couples", x.told(4), 0);
+            due("trees", x.told(5), 4);
+        });
+        test("WORKS that can be undone, too", "sixteen in each of three IMAGES", () -> {
+            MarriedStreets x = told(sideBySide(2, 1, 1));
+            for (int image = 1; image <= 3; image++) {
+                for (int i = 1; i <= 16; i++) {
+                    x.undo();
+                }
+                for (int i = 1; i <= 16; i++) {
+                    work(x, "plant 0 " + image + ";marry 0 1;part 0;");
+                }
+                due("image()", x.image(), image);
+            }
+            for (int image = 3; image >= 1; image--) {
+                due("restore()", x.restore(), image - 1);
+                due("works", x.count(2), 16);
+                due("undo()", x.undo(), 15);
+                due("parted", x.told(9), 15);
+                due("trees", x.told(5), 2 + 15 * image);
+                for (int i = 14; i >= 1; i--) {
+                    x.undo();
+                }
+                due("parted", x.told(9), 1);
+                due("trees", x.told(5), 2 + image);
+            }
+        });
         test(words, "all that a WORK can change", () -> {
             String[] works = {"year;", "plant 0 9;", "part 0;", "part 2;marry 0 1;", "quarrel 0;", "repave 0;",
                 "again 5[quarrel 2;];year;", "part 0;marry 0 2;"};

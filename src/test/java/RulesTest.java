@@ -9,6 +9,7 @@ import java.util.ArrayList;
 import java.util.Arrays;
 import java.util.HashSet;
 import java.util.List;
+import java.util.NoSuchElementException;
 import java.util.Set;
 import java.util.TreeSet;
 import java.util.regex.Matcher;
@@ -21,6 +22,12 @@ public final class RulesTest {
         "best 0", "bestFor 1", "tempted 0", "way 2", "round 1", "reach 1", "bridges 1", "fair 1", "even 0", "mates 2",
         "look 2", "right 1", "lane 0", "stop 0", "suitors 4", "gets 3", "ahead 2", "centuries 4", "span 6", "image 0",
         "restore 0", "status 1", "count 1"};
+
+    /** What the face says that its calls throw: I IllegalArgument, N NoSuchElement, B IndexOutOfBounds. */
+    private static final String[] THROWS = {"city I", "law I", "work I", "post I", "told I", "street NI", "likes NI",
+        "banns N", "number BN", "letter NI", "last N", "missing N", "stableFor N", "bestFor N", "way N", "round I",
+        "reach N", "bridges I", "fair I", "mates NI", "look NI", "right N", "suitors I", "gets I", "ahead I",
+        "centuries I", "span I"};
 
     private static int wrong = 0;
 
@@ -40,6 +47,7 @@ public final class RulesTest {
                 need(Modifier.isPublic(m.getModifiers()) && !Modifier.isStatic(m.getModifiers()), m + " is a public method");
                 need(m.getReturnType() == int.class, m + " answers an int");
                 need(Arrays.stream(m.getParameterTypes()).allMatch(p -> p == int.class), m + " takes ints");
+                need(declared(m).equals(due(m.getName())), m + " says that it throws " + due(m.getName()));
                 open.add(m.getName() + " " + m.getParameterCount());
             }
         }
@@ -51,6 +59,24 @@ public final class RulesTest {
         need(made.length == 1 && Modifier.isPublic(made[0].getModifiers()) && made[0].getParameterCount() == 0,
                 "one public constructor");
         inside(c);
+    }
+
+    private static String declared(Method m) {
+        StringBuilder signs = new StringBuilder();
+        for (Class<?> e : m.getExceptionTypes()) {
+            signs.append(e == IllegalArgumentException.class ? 'I' : e == NoSuchElementException.class ? 'N'
+                    : e == IndexOutOfBoundsException.class ? 'B' : '?');
+        }
+        return signs.toString();
+    }
+
+    private static String due(String name) {
+        for (String t : THROWS) {
+            if (t.startsWith(name + " ")) {
+                return t.substring(name.length() + 1);
+            }
+        }
+        return "";
     }
 
     private static void inside(Class<?> c) {
