@@ -209,6 +209,12 @@ final class CityCases extends Trial {
             feed(x, "river 5;");
             due("city(7)", x.city(7), -9);
             due("fault()", x.fault(), 7);
+            feed(x, "river 5  ;");
+            due("city(8)", x.city(8), -9);
+            due("fault()", x.fault(), 8);
+            feed(x, "rivers 5;");
+            due("city(5)", x.city(5), -9);
+            due("fault()", x.fault(), 5);
         });
         test("how many STREETS; or the FAULT less 10 (all but the TAPE stays)", "0, 1 and 8 of them", () -> {
             cityIs("", 0);
@@ -305,6 +311,19 @@ final class CityCases extends Trial {
                 due("best()", x.best(), 10);
                 due("street(2, 3)", outcome(() -> x.street(2, 3)), NSEE);
                 due("round(4)", outcome(() -> x.round(4)), IAE);
+            }
+        });
+        test("are the CITY", "no WAYS are left of one with more STREETS, told twice ahead", () -> {
+            String corners = "corner 0 0;corner 1 0;corner 2 0;corner 3 0;";
+            MarriedStreets x = new MarriedStreets();
+            city(x, corners + "street 0 1 1 1;street 1 2 1 1;street 2 3 1 1;street 3 0 1 1;");
+            city(x, corners + "street 0 1 1 1;street 1 2 1 1;street 2 3 1 1;street 3 0 1 1;");
+            for (int i = 0; i < 2; i++) {
+                due("city", city(x, corners + "street 0 1 1 1;"), 1);
+                due("reach(0)", x.reach(0), 3);
+                due("way(1, 2)", x.way(1, 2), NONE);
+                due("bridges(0)", x.bridges(0), 1);
+                due("round(1)", x.round(1), 2);
             }
         });
         test("how many STREETS; or the FAULT less 10 (all but the TAPE stays)", "of a CITY read half", () -> {

@@ -166,6 +166,16 @@ final class KeepCases extends Trial {
             due("trees", x.told(5), 792);
             due("holes", x.told(6), 72);
         });
+        test("4 couples, 5 trees in all, 6 holes in all", "of the first and the eighth STREET", () -> {
+            MarriedStreets x = told(sideBySide(8, 1, 1));
+            work(x, "marry 7 1;year;year;marry 0 2;year;quarrel 7;");
+            due("couples", x.told(4), 2);
+            due("trees", x.told(5), 8);
+            due("holes", x.told(6), 2);
+            due("the eighth is she", x.street(7, 6), 1);
+            due("her YEARS", x.street(7, 7), 3);
+            due("YEARS of the first", x.street(0, 7), 1);
+        });
         test("7 lines of the POST", "0 and 8", () -> {
             MarriedStreets x = new MarriedStreets();
             due("none", x.told(7), 0);

@@ -142,6 +142,16 @@ final class LawCases extends Trial {
             lawFault("99999999999999999999", 2, 0);
             lawFault("4294967297", 2, 0);
         });
+        test("U: N (0 to 999)", "0 is 0 and 1 is 1, whatever the STREETS are", () -> {
+            MarriedStreets x = told(sideBySide(2, 20, 20));
+            work(x, "year;marry 0 1;quarrel 0;part 0;");
+            law(x, "0");
+            due("0", x.banns(0, 1), 0);
+            law(x, "1 - 1");
+            due("1 less 1", x.banns(0, 1), 0);
+            law(x, "1");
+            due("1", x.banns(0, 1), 3);
+        });
         test("Values are whole numbers of 32 bits that wrap", "by + beyond the greatest", () -> {
             MarriedStreets x = told(sideBySide(2, 1, 1));
             law(x, "(512*512*512*16-1)+1");
